@@ -94,9 +94,9 @@ public final class GuestFrames {
         if (stack < 0 || stack > MOST_STACK) throw new IllegalArgumentException("stack is not 0 .. 12");
         if (result < 0 || result > R) throw new IllegalArgumentException("result is not 0 .. 3");
         if (routines.size() == MOST_METHODS) throw new UnsupportedOperationException("there are 20 methods");
-        Routine routine = new Routine(draft, arguments, locals, stack, result);
+        Routine routine = new Routine(draft.code(), draft.handlerRows(), arguments, locals, stack, result);
         draft.empty();
-        if (!judge.finds(routine)) return NONE;
+        if (!judge.findsGood(routine)) return NONE;
         routines.add(routine);
         return routines.size() - 1;
     }
@@ -168,8 +168,8 @@ public final class GuestFrames {
 
     /** The tape and the handlers from which the next method is made. */
     private static final class Draft {
-        final byte[] tape = new byte[MOST_CODE];
-        final int[] handlerRow = new int[MOST_HANDLERS * Routine.HANDLER];
+        private final byte[] tape = new byte[MOST_CODE];
+        private final int[] rows = new int[MOST_HANDLERS * Routine.HANDLER];
         int length;
         int handlers;
 
@@ -183,11 +183,19 @@ public final class GuestFrames {
 
         void appendHandler(int from, int to, int at, int type) {
             int first = handlers * Routine.HANDLER;
-            handlerRow[first] = from;
-            handlerRow[first + 1] = to;
-            handlerRow[first + 2] = at;
-            handlerRow[first + 3] = type;
+            rows[first] = from;
+            rows[first + 1] = to;
+            rows[first + 2] = at;
+            rows[first + 3] = type;
             handlers++;
+        }
+
+        byte[] code() {
+            return Arrays.copyOf(tape, length);
+        }
+
+        int[] handlerRows() {
+            return Arrays.copyOf(rows, handlers * Routine.HANDLER);
         }
 
         void empty() {
@@ -209,9 +217,9 @@ public final class GuestFrames {
         final int stack;
         final int end;
 
-        Routine(Draft draft, int digits, int locals, int stack, int end) {
-            code = Arrays.copyOf(draft.tape, draft.length);
-            handlers = Arrays.copyOf(draft.handlerRow, draft.handlers * HANDLER);
+        Routine(byte[] code, int[] handlers, int digits, int locals, int stack, int end) {
+            this.code = code;
+            this.handlers = handlers;
             arguments = argumentsIn(digits);
             kinds = digits & (1 << 2 * arguments) - 1;
             this.locals = locals;
@@ -382,6 +390,7 @@ public final class GuestFrames {
 
         private final Types types;
         private final ArrayList<Routine> routines;
+        // These rows have what is known of each place of the code.
         private final boolean[] seen = new boolean[MOST_CODE];
         private final boolean[] waits = new boolean[MOST_CODE];
         private final int[] waiting = new int[MOST_CODE];
@@ -400,12 +409,10 @@ public final class GuestFrames {
             this.routines = routines;
         }
 
-        /** Whether the method is good. */
-        boolean finds(Routine candidate) {
+        boolean findsGood(Routine candidate) {
             routine = candidate;
             good = true;
             waitingPlaces = 0;
-            Arrays.fill(localsAt, 0);
             for (int place = 0; place < MOST_CODE; place++) {
                 seen[place] = false;
                 waits[place] = false;
@@ -434,10 +441,11 @@ public final class GuestFrames {
             locals = localsAt[place];
             leadToHandlers(place);
             take(Op.takes(shape));
-            if (good) heed(op, place, shape);
+            heed(op, place, shape);
             give(Op.leaves(shape));
-            if (good && Op.jumps(op)) lead(place + routine.pairAt(place + 1), stack, locals);
-            if (good && Op.goesOn(op)) lead(next, stack, locals);
+            if (!good) return;
+            if (Op.jumps(op)) lead(place + routine.pairAt(place + 1), stack, locals);
+            if (Op.goesOn(op)) lead(next, stack, locals);
         }
 
         private void leadToHandlers(int place) {
@@ -529,7 +537,7 @@ public final class GuestFrames {
 
         private void setLocal(int number, int kind) {
             require(number < routine.locals);
-            if (good) locals = locals & ~(3 << 2 * number) | kind << 2 * number;
+            locals = locals & ~(3 << 2 * number) | kind << 2 * number;
         }
 
         private void duplicate() {
@@ -548,13 +556,13 @@ public final class GuestFrames {
         private int fieldKind(int place) {
             int type = routine.at(place + 1);
             int field = routine.at(place + 2);
-            require(types.has(type) && field < types.fields[type]);
-            return good ? types.kindOfField(type, field) : 0;
+            boolean has = types.has(type) && field < types.fields[type];
+            require(has);
+            return has ? types.kindOfField(type, field) : 0;
         }
 
         private void passCall(int number) {
             require(number <= routines.size());
-            if (!good) return;
             Routine called = number < routines.size() ? routines.get(number) : routine;
             for (int i = called.arguments - 1; i >= 0; i--) take(called.kindOfArgument(i));
             give(called.end);
@@ -806,8 +814,7 @@ public final class GuestFrames {
         }
 
         void increase(int local, int by) {
-            numbers[local] = (int) numbers[local] + by;
-            numbers[local] = (int) numbers[local];
+            numbers[local] = (int) (numbers[local] + by);
         }
 
         void duplicate() {
@@ -872,7 +879,7 @@ public final class GuestFrames {
             this.room = room;
             heap = new Heap(types, room);
             frames = new Frame[MOST_FRAMES];
-            Routine nothing = new Routine(new Draft(), 0, 0, 0, 0);
+            Routine nothing = new Routine(new byte[0], new int[0], 0, 0, 0, 0);
             for (int i = 0; i < MOST_FRAMES; i++) frames[i] = new Frame(nothing);
             frame = frames[0];
         }
@@ -1038,13 +1045,14 @@ public final class GuestFrames {
             return goOn(1);
         }
 
+        /** The divisor has been looked at. */
         private static long combined(int way, long first, long second) {
             switch (way) {
                 case Op.IADD: return first + second;
                 case Op.ISUB: return first - second;
                 case Op.IMUL: return first * second;
-                case Op.IDIV: return second == 0 ? 0 : first / second;
-                case Op.IREM: return second == 0 ? 0 : first % second;
+                case Op.IDIV: return first / second;
+                case Op.IREM: return first % second;
                 case Op.IAND: return first & second;
                 case Op.IOR: return first | second;
                 default: return first ^ second;
