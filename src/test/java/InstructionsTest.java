@@ -224,9 +224,25 @@ public final class InstructionsTest {
                 5, 188, 11, 58, 2, 25, 2, 3, 22, 0, 80, 25, 2, 4, 22, 1, 80, 25, 2, 3, 47, 25, 2, 4, 47, 101, 173),
                 "0 " + (a - ~a));
         }
+        for (int[] use : uses) manyElements(use[0], use[1], 0, use[2], 0);
+        manyElements(11, 133, 80, 47, 136);
         due("an array of R", "0 1", R, 5, 189, 89, 4, 187, 3, 83, 4, 50, 176);
         due("a new array of R", "0 0", R, 5, 189, 89, 4, 187, 3, 83, 3, 50, 176);
         due("an array in itself", "0 1", I, 4, 189, 58, 0, 25, 0, 3, 25, 0, 83, 25, 0, 3, 50, 25, 0, 165, 0, 5, 3, 172, 4, 172);
+    }
+
+    /** Element i of 21 is given i times a; then each sum is 31 times the one before and an element more. */
+    private static void manyElements(int sort, int store, int storeToo, int load, int loadToo) {
+        for (int a : new int[] {1, 37, -41, 12345, 0x7654321}) {
+            int sum = 0;
+            for (int i = 0; i < 21; i++) sum = 31 * sum + lowest(sort, i * a);
+            CHECK.same("21 of sort " + sort + " with " + a, Guest.alone(I, 4, I, a, 0,
+                16, 21, 188, sort, 58, 1, 3, 54, 2,
+                25, 1, 21, 2, 21, 2, 21, 0, 104, store, storeToo, 132, 2, 1, 21, 2, 16, 21, 161, 255, 238,
+                3, 54, 2, 3, 54, 3,
+                21, 3, 16, 31, 104, 25, 1, 21, 2, load, loadToo, 96, 54, 3, 132, 2, 1, 21, 2, 16, 21, 161, 255, 235,
+                21, 3, 172), "0 " + sum);
+        }
     }
 
     private static int lowest(int sort, int value) {

@@ -139,6 +139,8 @@ public final class JudgeTest {
         bad("a local that is not there", 0, 1, 1, NO, 3, 54, 1, 177);
         bad("a local far beyond", 0, 16, 1, NO, 3, 54, 255, 177);
         bad("a local read beyond", I, 1, 1, I, 21, 16, 172);
+        bad("a local read beyond the most", I, 16, 1, I, 21, 16, 172);
+        bad("a local set beyond the most", I, 16, 1, NO, 3, 54, 16, 177);
         good("the last local", 0, 16, 1, I, 3, 54, 15, 21, 15, 172);
         good("a kind changed", I, 1, 1, R, 1, 58, 0, 25, 0, 176);
         bad("the kind before it", I, 1, 1, I, 1, 58, 0, 21, 0, 172);
