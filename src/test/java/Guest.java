@@ -1,3 +1,6 @@
+import java.util.Arrays;
+import java.util.function.LongSupplier;
+
 /** A machine under test, with code written as rows of bytes. */
 final class Guest {
     static final int NO = 0, I = 1, J = 2, R = 3;
@@ -7,6 +10,19 @@ final class Guest {
 
     Guest(int words) {
         machine = new GuestFrames(words);
+    }
+
+    /** What a call answers or throws, as issues write it. */
+    static String answer(LongSupplier call) {
+        try {
+            return "" + call.getAsLong();
+        } catch (RuntimeException e) {
+            return "throws." + e.getClass().getSimpleName();
+        }
+    }
+
+    static int[] join(int[]... parts) {
+        return Arrays.stream(parts).flatMapToInt(Arrays::stream).toArray();
     }
 
     /** Kinds as the digits that method() takes. */

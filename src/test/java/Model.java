@@ -129,7 +129,30 @@ final class Model {
         return sort == 11 ? 2 * length : length;
     }
 
+    int feed(int[] five, int n) {
+        if (n < 1 || n > 20) throw new IllegalArgumentException();
+        if (200 - tape.size() < n) throw new UnsupportedOperationException();
+        for (int i = 0; i < n; i++) tape.add(five[i / 4] >>> 8 * (3 - i % 4) & 255);
+        return tape.size();
+    }
+
+    int handler(int from, int to, int at, int type) {
+        boolean placed = 0 <= from && from < to && to <= 200 && 0 <= at && at <= 200;
+        if (!placed || type < 0 || type >= types.size()) throw new IllegalArgumentException();
+        if (handlers.size() == 8) throw new UnsupportedOperationException();
+        handlers.add(new int[] {from, to, at, type});
+        return handlers.size();
+    }
+
+    long count(int what) {
+        if (what < 0 || what > 4) throw new IndexOutOfBoundsException();
+        return new long[] {types.size(), codes.size(), tape.size(), latest, most}[what];
+    }
+
     int type(int parent, int fields, int refs) {
+        if (parent < 0 || parent >= types.size()) throw new IndexOutOfBoundsException();
+        if (fields < 0 || (long) fields + types.get(parent).fields.length() > 8) throw new IllegalArgumentException();
+        if (types.size() == 30) throw new UnsupportedOperationException();
         StringBuilder kinds = new StringBuilder(types.get(parent).fields);
         for (int i = 0; i < fields; i++) kinds.append((refs >> i & 1) == 1 ? 'R' : 'I');
         types.add(new Type(types.get(parent), kinds.toString()));
@@ -137,9 +160,13 @@ final class Model {
     }
 
     int method(int arguments, int locals, int stack, int result) {
+        if (arguments < 0 || arguments > 255) throw new IllegalArgumentException();
         Code code = new Code();
         code.arguments = "";
         for (int rest = arguments; rest % 4 != 0; rest /= 4) code.arguments += "-IJR".charAt(rest % 4);
+        if (locals < code.arguments.length() || locals > 16 || stack < 0 || stack > 12) throw new IllegalArgumentException();
+        if (result < 0 || result > 3) throw new IllegalArgumentException();
+        if (codes.size() == 20) throw new UnsupportedOperationException();
         code.locals = locals;
         code.stack = stack;
         code.result = "-IJR".charAt(result);
@@ -313,6 +340,8 @@ final class Model {
     // ---- runs
 
     int run(int method, long a, long b, int fuel) {
+        if (method < 0 || method >= codes.size()) throw new IndexOutOfBoundsException();
+        if (fuel < 0 || fuel > 20000) throw new IllegalArgumentException();
         frames.clear();
         result = 0;
         steps = 0;

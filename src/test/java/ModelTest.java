@@ -53,15 +53,12 @@ public final class ModelTest {
         for (int from = 0; from < code.length; from += 20) {
             int n = Math.min(20, code.length - from);
             int[] five = new int[5];
-            for (int i = 0; i < n; i++) {
-                five[i / 4] |= (code[from + i] & 255) << 24 - 8 * (i % 4);
-                model.tape.add(code[from + i]);
-            }
-            CHECK.due("feed", program.feed(five[0], five[1], five[2], five[3], five[4], n), from + n);
+            for (int i = 0; i < n; i++) five[i / 4] |= (code[from + i] & 255) << 24 - 8 * (i % 4);
+            CHECK.due("feed", program.feed(five[0], five[1], five[2], five[3], five[4], n), model.feed(five, n));
         }
         for (int[] handler : writer.handlers) {
-            model.handlers.add(handler);
-            CHECK.due("handler", program.handler(handler[0], handler[1], handler[2], handler[3]), model.handlers.size());
+            int want = model.handler(handler[0], handler[1], handler[2], handler[3]);
+            CHECK.due("handler", program.handler(handler[0], handler[1], handler[2], handler[3]), want);
         }
         int stack = random.nextInt(8) == 0 ? random.nextInt(13) : 12;
         int got = program.method(writer.arguments, writer.locals.length, stack, writer.result);
