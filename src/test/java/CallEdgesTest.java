@@ -119,8 +119,9 @@ public final class CallEdgesTest {
     /** "IllegalArgumentException: n is not 1 .. 20" */
     private static void feedOfTooFewOrTooMany() {
         GuestFrames x = new GuestFrames(16);
-        for (int n : new int[] {LEAST, -20, -1, 0, 21, 22, 200, MOST}) due("feed of " + n, () -> x.feed(0, 0, 0, 0, 0, n),
-            ARGUMENT);
+        for (int n : new int[] {LEAST, -20, -1, 0, 21, 22, 200, MOST}) {
+            due("feed of " + n, () -> x.feed(0, 0, 0, 0, 0, n), ARGUMENT);
+        }
         due("no byte came", () -> x.count(2), 0);
         due("feed of 1", () -> x.feed(0, 0, 0, 0, 0, 1), 1);
         due("feed of 20", () -> x.feed(0, 0, 0, 0, 0, 20), 21);
@@ -256,8 +257,9 @@ public final class CallEdgesTest {
     /** "or there is no such class" */
     private static void handlerOfNoClass() {
         GuestFrames x = new GuestFrames(16);
-        for (int type : new int[] {LEAST, -1, 7, 8, 29, 30, MOST}) due("a handler for " + type, () -> x.handler(0, 1, 0,
-            type), ARGUMENT);
+        for (int type : new int[] {LEAST, -1, 7, 8, 29, 30, MOST}) {
+            due("a handler for " + type, () -> x.handler(0, 1, 0, type), ARGUMENT);
+        }
         for (int type = 0; type < 7; type++) {
             int number = type;
             due("a handler for " + type, () -> x.handler(0, 1, 0, number), type + 1);
@@ -361,9 +363,12 @@ public final class CallEdgesTest {
     private static void methodOfNoSuchStackOrResult() {
         Guest guest = new Guest(16);
         GuestFrames x = guest.feed(RETURN).machine;
-        for (int stack : new int[] {LEAST, -1, 13, 14, 255, MOST}) due("stack " + stack, () -> x.method(0, 0, stack, 0), ARGUMENT);
-        for (int result : new int[] {LEAST, -1, 4, 5, 8, 255, MOST}) due("result " + result, () -> x.method(0, 0, 0, result),
-            ARGUMENT);
+        for (int stack : new int[] {LEAST, -1, 13, 14, 255, MOST}) {
+            due("stack " + stack, () -> x.method(0, 0, stack, 0), ARGUMENT);
+        }
+        for (int result : new int[] {LEAST, -1, 4, 5, 8, 255, MOST}) {
+            due("result " + result, () -> x.method(0, 0, 0, result), ARGUMENT);
+        }
         due("stack 0", () -> x.method(0, 0, 0, 0), 0);
         due("stack 12", () -> guest.method(0, 0, 12, NO, RETURN), 1);
         due("result 3", () -> guest.method(0, 0, 1, R, 1, 176), 2);
@@ -445,8 +450,9 @@ public final class CallEdgesTest {
         Guest guest = new Guest(16);
         GuestFrames x = guest.machine;
         guest.method(0, 0, 0, NO, 167, 0, 0);
-        for (int fuel : new int[] {LEAST, -20000, -1, 20001, 20002, MOST}) due("fuel " + fuel, () -> x.run(0, 0, 0, fuel),
-            ARGUMENT);
+        for (int fuel : new int[] {LEAST, -20000, -1, 20001, 20002, MOST}) {
+            due("fuel " + fuel, () -> x.run(0, 0, 0, fuel), ARGUMENT);
+        }
         due("no run began", () -> x.steps(), 0);
         due("fuel 20000", () -> x.run(0, 0, 0, 20000), 2);
         due("its steps", () -> x.steps(), 20000);
@@ -478,7 +484,9 @@ public final class CallEdgesTest {
     /** "IndexOutOfBoundsException: there is no such what." */
     private static void countOfNoSuchWhat() {
         GuestFrames x = new GuestFrames(16);
-        for (int what : new int[] {LEAST, -2, -1, 5, 6, MOST}) due("count of " + what, () -> x.count(what), BOUNDS);
+        for (int what : new int[] {LEAST, -2, -1, 5, 6, MOST}) {
+            due("count of " + what, () -> x.count(what), BOUNDS);
+        }
         for (int what = 0; what <= 4; what++) {
             int asked = what;
             due("count of " + what, () -> x.count(asked), what == 0 ? 7 : 0);

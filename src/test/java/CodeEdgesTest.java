@@ -273,8 +273,8 @@ public final class CodeEdgesTest {
             CHECK.due("one that is not good once more", guest.method(I, 1, 1, NO, code), -1);
             CHECK.due("one that is not good at " + place, guest.method(I, 1, 1, NO, worse), -1);
             CHECK.due("one that is good", guest.method(I, 1, 1, NO, other), 1);
-            CHECK.due("one with other kinds at " + place, guest.method(Guest.kinds(I, R), 2, 2, NO, Guest.join(other,
-                new int[] {255})), 2);
+            CHECK.due("one with other kinds at " + place,
+                guest.method(Guest.kinds(I, R), 2, 2, NO, Guest.join(other, new int[] {255})), 2);
         }
     }
 
@@ -289,14 +289,14 @@ public final class CodeEdgesTest {
                 judged("55 " + n + " of " + locals, good, 0, locals, 1, NO, 9, 55, n, RETURN);
                 judged("58 " + n + " of " + locals, good, 0, locals, 1, NO, 1, 58, n, RETURN);
                 // All locals have the kind that is read.
-                judged("21 " + n + " of " + locals, good, 0, locals, 1, NO, Guest.join(fill(locals, 3, 54), new int[] {21, n,
-                    RETURN}));
-                judged("22 " + n + " of " + locals, good, 0, locals, 1, NO, Guest.join(fill(locals, 9, 55), new int[] {22, n,
-                    RETURN}));
-                judged("25 " + n + " of " + locals, good, 0, locals, 1, NO, Guest.join(fill(locals, 1, 58), new int[] {25, n,
-                    RETURN}));
-                judged("132 " + n + " of " + locals, good, 0, locals, 1, NO, Guest.join(fill(locals, 3, 54), new int[] {132,
-                    n, 1, RETURN}));
+                judged("21 " + n + " of " + locals, good, 0, locals, 1, NO,
+                    Guest.join(fill(locals, 3, 54), new int[] {21, n, RETURN}));
+                judged("22 " + n + " of " + locals, good, 0, locals, 1, NO,
+                    Guest.join(fill(locals, 9, 55), new int[] {22, n, RETURN}));
+                judged("25 " + n + " of " + locals, good, 0, locals, 1, NO,
+                    Guest.join(fill(locals, 1, 58), new int[] {25, n, RETURN}));
+                judged("132 " + n + " of " + locals, good, 0, locals, 1, NO,
+                    Guest.join(fill(locals, 3, 54), new int[] {132, n, 1, RETURN}));
             }
         }
         for (int op : new int[] {54, 21, 132}) judged(op + " of no locals", false, 0, 0, 1, NO, 3, op, 0, RETURN, RETURN);
@@ -326,8 +326,8 @@ public final class CodeEdgesTest {
         int[] loads = {0, 21, 22, 25};
         for (int local = 0; local < 16; local++) {
             for (int has = NO; has <= R; has++) {
-                int[] before = has == NO ? new int[] {0} : new int[] {new int[] {0, 3, 9, 1}[has], new int[] {0, 54, 55,
-                    58}[has], local};
+                int[] before = has == NO ? new int[] {0} : new int[] {new int[] {0, 3, 9, 1}[has],
+                    new int[] {0, 54, 55, 58}[has], local};
                 for (int read = I; read <= R; read++) {
                     judged("local " + local + " of kind " + has + " read as " + read, has == read, 0, 16, 1, NO,
                         Guest.join(before, new int[] {loads[read], local, RETURN}));
@@ -335,8 +335,8 @@ public final class CodeEdgesTest {
                 judged("local " + local + " of kind " + has + " made more", has == I, 0, 16, 1, NO,
                     Guest.join(before, new int[] {132, local, 1, RETURN}));
                 int other = (local + 1) % 16;
-                judged("local " + other + " beside " + local, false, 0, 16, 1, NO, Guest.join(before, new int[] {21, other,
-                    RETURN}));
+                judged("local " + other + " beside " + local, false, 0, 16, 1, NO,
+                    Guest.join(before, new int[] {21, other, RETURN}));
             }
         }
         judged("the later kind", true, 0, 1, 1, J, 3, 54, 0, 1, 58, 0, 9, 55, 0, 22, 0, 173);
@@ -383,14 +383,14 @@ public final class CodeEdgesTest {
                 if (k < 0) continue;
                 int due = k < fields ? 0 : -1;
                 for (int parents = 0; parents <= fields; parents++) {
-                    CHECK.due("180 of field " + k + " of " + fields, withFields(parents, fields).method(0, 0, 1, NO, 1, 180,
-                        8, k, RETURN), due);
+                    CHECK.due("180 of field " + k + " of " + fields,
+                        withFields(parents, fields).method(0, 0, 1, NO, 1, 180, 8, k, RETURN), due);
                 }
-                CHECK.due("181 of field " + k + " of " + fields, withFields(0, fields).method(0, 0, 2, NO, 1, 3, 181, 8, k,
-                    RETURN), due);
+                CHECK.due("181 of field " + k + " of " + fields,
+                    withFields(0, fields).method(0, 0, 2, NO, 1, 3, 181, 8, k, RETURN), due);
                 int above = k < fields / 2 ? 0 : -1;
-                CHECK.due("180 of its parent's field " + k, withFields(fields / 2, fields).method(0, 0, 1, NO, 1, 180, 7, k,
-                    RETURN), above);
+                CHECK.due("180 of its parent's field " + k,
+                    withFields(fields / 2, fields).method(0, 0, 1, NO, 1, 180, 7, k, RETURN), above);
             }
         }
     }
@@ -483,10 +483,10 @@ public final class CodeEdgesTest {
                     judged(what, true, I, 16, 12, NO, Guest.join(code, new int[] {RETURN}));
                     for (int read = I; read <= R; read++) {
                         boolean good = some == read && others == read;
-                        judged(what + " read as " + read, good, I, 16, 12, NO, Guest.join(code, new int[] {loads[read], local,
-                            RETURN}));
-                        judged(what + " read later", good, I, 16, 12, NO, Guest.join(code, new int[] {0, 3, 87, loads[read],
-                            local, RETURN}));
+                        judged(what + " read as " + read, good, I, 16, 12, NO,
+                            Guest.join(code, new int[] {loads[read], local, RETURN}));
+                        judged(what + " read later", good, I, 16, 12, NO,
+                            Guest.join(code, new int[] {0, 3, 87, loads[read], local, RETURN}));
                         judged(what + " set anew and read", true, I, 16, 12, NO,
                             Guest.join(code, new int[] {pushes[read], stores[read], local, loads[read], local, RETURN}));
                         judged(what + ", another read", true, I, 16, 12, NO, Guest.join(code, new int[] {21, 0, RETURN}));
@@ -607,8 +607,8 @@ public final class CodeEdgesTest {
             // What the instruction has below it does not come to the handler.
             handled("caught over " + stack, true, new int[] {stack.length(), 200, code.length + 1, 0}, 4, 3, NO,
                 Guest.join(code, new int[] {RETURN}, new int[] {191}));
-            handled("one more than what is caught over " + stack, false, new int[] {stack.length(), stack.length() + 1,
-                code.length + 1, 0},
+            handled("one more than what is caught over " + stack, false,
+                new int[] {stack.length(), stack.length() + 1, code.length + 1, 0},
                 4, 3, NO, Guest.join(code, new int[] {RETURN}, new int[] {87, 87, RETURN}));
         }
         handled("an I from a handler", false, new int[] {0, 1, 1, 0}, 4, 3, NO, RETURN, 54, 0, RETURN);

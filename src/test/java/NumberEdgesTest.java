@@ -186,8 +186,8 @@ public final class NumberEdgesTest {
         long[] wide = {LEAST_J, LEAST_J + 1, LEAST - 1L, LEAST, -1, 0, 1, MOST, MOST + 1L, 1L << 32, MOST_J - 1, MOST_J};
         for (int i = 0; i < wide.length; i++) {
             for (int k = 0; k < wide.length; k++) {
-                due("148 of " + wide[i] + ", " + wide[k], "0 " + Integer.signum(i - k), Guest.kinds(J, J), I, wide[i], wide[k],
-                    22, 0, 22, 1, 148, 172);
+                due("148 of " + wide[i] + ", " + wide[k], "0 " + Integer.signum(i - k), Guest.kinds(J, J), I, wide[i],
+                    wide[k], 22, 0, 22, 1, 148, 172);
             }
         }
         int[] narrow = {LEAST, LEAST + 1, -1, 0, 1, MOST - 1, MOST};
@@ -321,7 +321,7 @@ public final class NumberEdgesTest {
         guest.method(R, 1, 2, R, 1, 25, 0, 176);
         CHECK.same("a call to an R", guest.runs(0, 0, R, 0, 0, 187, 3, 184, 3, 176), "0 1");
         CHECK.same("a call to none", guest.runs(0, 0, R, 0, 0, 187, 3, 1, 184, 3, 176), "0 0");
-        CHECK.same("a call on a stack that its result fills", guest.runs(0, 0, J, 0, 0, 1, 1, 1, 1, 1, 1, 1, 1, 1, 1, 1, 184,
-            2, 173), "0 1");
+        CHECK.same("a call on a stack that its result fills",
+            guest.runs(0, 0, J, 0, 0, 1, 1, 1, 1, 1, 1, 1, 1, 1, 1, 1, 184, 2, 173), "0 1");
     }
 }

@@ -101,8 +101,8 @@ public final class RunEdgesTest {
                 guest.machine.type(8, 0, 0);
                 int[] others = {1, 3, 4, 5, 6, 9, 1, 3};
                 for (int i = 0; i < 8; i++) guest.handler(0, 3, i == which ? 6 : 3, i == which ? catches : others[i]);
-                CHECK.same("handler " + which + " for " + catches, guest.runs(0, 0, I, 0, 0, 187, 8, 191, 87, 3, 172, 87, 8,
-                    172), "0 5");
+                CHECK.same("handler " + which + " for " + catches,
+                    guest.runs(0, 0, I, 0, 0, 187, 8, 191, 87, 3, 172, 87, 8, 172), "0 5");
             }
         }
         // Eight that all catch: the first one does, also where a later one is for the class itself.
@@ -261,8 +261,8 @@ public final class RunEdgesTest {
         guest.method(0, 0, 2, NO, 187, 0, 167, 0, 0);
         guest.method(0, 0, 2, NO, 1, 191);
         guest.method(0, 0, 2, NO, 187, 0, 187, 0, 191);
-        int[][] rows = {{1, 9, 2, 40}, {0, 9, 0, 0}, {1, 0, 0, 0}, {2, 9, 40, 40}, {3, 9, 0, 0}, {1, 2, 40, 40}, {1, 3, 40,
-            40}, {1, 4, 2, 40},
+        int[][] rows = {{1, 9, 2, 40}, {0, 9, 0, 0}, {1, 0, 0, 0}, {2, 9, 40, 40}, {3, 9, 0, 0}, {1, 2, 40, 40},
+            {1, 3, 40, 40}, {1, 4, 2, 40},
             {4, 9, 2, 2}, {5, 9, 2, 2}, {6, 9, 4, 4}, {5, 1, 0, 0}};
         for (int[] row : rows) {
             guest.outcome(row[0], 0, 0, row[1]);

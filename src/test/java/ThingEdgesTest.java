@@ -28,13 +28,11 @@ public final class ThingEdgesTest {
 
     /** "4 flags (one bit), 8 bytes (8 bits with a sign), 5 characters (16 without one), 9 shorts (16 with one)" */
     private static void lowestBitsOfElements() {
-        int[][] rows = {{4, 0, 0}, {4, 1, 1}, {4, 2, 0}, {4, 3, 1}, {4, -1, 1}, {4, -2, 0}, {4, LEAST, 0}, {4, MOST, 1}, {8,
-            127, 127},
-            {8, 128, -128}, {8, 255, -1}, {8, 256, 0}, {8, -128, -128}, {8, -129, 127}, {8, LEAST, 0}, {8, MOST, -1}, {5,
-            65535, 65535},
-            {5, 65536, 0}, {5, -1, 65535}, {5, 32768, 32768}, {5, LEAST, 0}, {5, MOST, 65535}, {9, 32767, 32767}, {9, 32768,
-            -32768},
-            {9, 65535, -1}, {9, 65536, 0}, {9, -32769, 32767}, {9, LEAST, 0}, {9, MOST, -1}, {10, LEAST, LEAST}, {10, MOST, MOST}};
+        int[][] rows = {{4, 0, 0}, {4, 1, 1}, {4, 2, 0}, {4, 3, 1}, {4, -1, 1}, {4, -2, 0}, {4, LEAST, 0}, {4, MOST, 1},
+            {8, 127, 127}, {8, 128, -128}, {8, 255, -1}, {8, 256, 0}, {8, -128, -128}, {8, -129, 127}, {8, LEAST, 0}, {8, MOST, -1},
+            {5, 65535, 65535}, {5, 65536, 0}, {5, -1, 65535}, {5, 32768, 32768}, {5, LEAST, 0}, {5, MOST, 65535},
+            {9, 32767, 32767}, {9, 32768, -32768}, {9, 65535, -1}, {9, 65536, 0}, {9, -32769, 32767}, {9, LEAST, 0}, {9, MOST, -1},
+            {10, LEAST, LEAST}, {10, MOST, MOST}};
         for (int[] row : rows) {
             // The neighbours, which may share its word, stay as they were.
             for (int place = 0; place < 9; place++) {
@@ -81,8 +79,8 @@ public final class ThingEdgesTest {
             int most = sort == 4 || sort == 8 ? 1592 : sort == 5 || sort == 9 ? 796 : sort == 11 ? 199 : 398;
             for (int length : new int[] {0, 1, 2, 3, 4, 5, 8, most - 1, most}) {
                 Guest guest = new Guest(400);
-                int[] first = Guest.join(new int[] {17, length >> 8, length & 255}, Sort.make(sort), new int[] {58, 1, 25, 1,
-                    21, 0});
+                int[] first = Guest.join(new int[] {17, length >> 8, length & 255}, Sort.make(sort),
+                    new int[] {58, 1, 25, 1, 21, 0});
                 guest.method(I, 2, 3, NO, Guest.join(first, new int[] {Sort.load(sort), Sort.away(sort), 177}));
                 guest.method(I, 2, 3, NO, Guest.join(first, new int[] {Sort.value(sort), Sort.store(sort), 177}));
                 for (int place : new int[] {LEAST, -length, -1, 0, 1, length - 1, length, length + 1, length + 3, 65536, MOST}) {
@@ -100,18 +98,18 @@ public final class ThingEdgesTest {
     private static void sizesOfArrays() {
         for (int sort : Sort.ALL) {
             for (int size : new int[] {-1, -2, -4, -5, -128, -65536, LEAST + 1, LEAST}) {
-                due("sort " + sort + " of " + size, "1 4", I, I, size, 0, Guest.join(new int[] {21, 0}, Sort.make(sort),
-                    new int[] {190, 172}));
+                due("sort " + sort + " of " + size, "1 4", I, I, size, 0,
+                    Guest.join(new int[] {21, 0}, Sort.make(sort), new int[] {190, 172}));
             }
             for (int size : new int[] {0, 1, 198}) {
-                due("sort " + sort + " of " + size, "0 " + size, I, I, size, 0, Guest.join(new int[] {21, 0}, Sort.make(sort),
-                    new int[] {190, 172}));
+                due("sort " + sort + " of " + size, "0 " + size, I, I, size, 0,
+                    Guest.join(new int[] {21, 0}, Sort.make(sort), new int[] {190, 172}));
             }
             // Words of these, in 32 bits, would wrap around.
             for (int size : new int[] {MOST, MOST - 1, MOST - 2, MOST - 3, 1 << 30, (1 << 30) - 1, 1 << 29, 1599}) {
                 String want = size > 1592 ? "3 0" : "0 " + size;
-                due("sort " + sort + " of " + size, want, I, I, size, 0, Guest.join(new int[] {21, 0}, Sort.make(sort),
-                    new int[] {190, 172}));
+                due("sort " + sort + " of " + size, want, I, I, size, 0,
+                    Guest.join(new int[] {21, 0}, Sort.make(sort), new int[] {190, 172}));
             }
         }
     }
@@ -128,10 +126,10 @@ public final class ThingEdgesTest {
                     Guest.join(first, new int[] {Sort.value(used), Sort.store(used), 177}));
             }
             int[] object = {187, 0, 3};
-            due("a load of " + has + " from an object", "1 5", 0, NO, 0, 0, Guest.join(object, new int[] {Sort.load(has),
-                Sort.away(has), 177}));
-            due("a store of " + has + " to an object", "1 5", 0, NO, 0, 0, Guest.join(object, new int[] {Sort.value(has),
-                Sort.store(has), 177}));
+            due("a load of " + has + " from an object", "1 5", 0, NO, 0, 0,
+                Guest.join(object, new int[] {Sort.load(has), Sort.away(has), 177}));
+            due("a store of " + has + " to an object", "1 5", 0, NO, 0, 0,
+                Guest.join(object, new int[] {Sort.value(has), Sort.store(has), 177}));
         }
         due("the length of an object", "1 5", 0, I, 0, 0, 187, 6, 190, 172);
     }
@@ -153,8 +151,8 @@ public final class ThingEdgesTest {
         for (int sort : Sort.ALL) {
             int[] array = Guest.join(new int[] {5}, Sort.make(sort));
             CHECK.same("180 with sort " + sort, family().runs(0, 0, I, 0, 0, Guest.join(array, new int[] {180, 7, 0, 172})), "1 5");
-            CHECK.same("181 with sort " + sort, family().runs(0, 0, NO, 0, 0, Guest.join(array, new int[] {8, 181, 7, 0,
-                177})), "1 5");
+            CHECK.same("181 with sort " + sort,
+                family().runs(0, 0, NO, 0, 0, Guest.join(array, new int[] {8, 181, 7, 0, 177})), "1 5");
         }
     }
 
