@@ -698,7 +698,8 @@ public final class GuestFrames {
 
         /** The classes that it is of, as bits; an array is of class 0 alone. */
         int classes(int handle) {
-            return isArray(handle) ? 1 : types.above[tag(handle)];
+            int tag = tag(handle);
+            return tag < 0 ? 1 : types.above[tag];
         }
 
         int field(int handle, int field) {
